@@ -672,7 +672,7 @@ public final class GreyHair {
 
         int sumOf(int set) {
             int sum = 0;
-            for (int i = 0; i < MOST_PERSONS; i++) {
+            for (int i = 0; i < MOST_PERSONS && set >> i != 0; i++) {
                 if (((set >> i) & 1) == 1) {
                     sum += cares[i];
                 }
@@ -1842,9 +1842,10 @@ public final class GreyHair {
             }
             for (int care = 0; care < CARES; care++) {
                 family.begin(trial, family.persons - 1, care);
-                for (int day = 0; day < DAYS; day++) {
-                    hairs[care * DAYS + day] = (byte) trial.hair;
+                hairs[care * DAYS] = (byte) trial.hair;
+                for (int day = 1; day < DAYS; day++) {
                     family.pass(trial, Family.NO_NEWS);
+                    hairs[care * DAYS + day] = (byte) trial.hair;
                 }
             }
             hairsAreMade = true;

@@ -54,7 +54,7 @@ final class Texts {
     private static String worry(Random r) {
         String[] all = {"care+has*3", "care+known/3-day", "known*(1-house)+care*house", "care*10+known", "99-care",
             "care%7*100", "care*known", "known-care", "not has and care+known>20", "care+known", "500+care-99",
-            "900+care+known"};
+            "900+care+known", "care*(known=0)", "care*(known<5)"};
         return all[r.nextInt(all.length)];
     }
 
