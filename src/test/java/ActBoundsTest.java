@@ -34,6 +34,7 @@ public final class ActBoundsTest {
         itsRest();
         byZero();
         oneOrZero();
+        whichFirst();
         zeroAtLeast999AtMost();
     }
 
@@ -110,6 +111,7 @@ public final class ActBoundsTest {
         refusedIsNoAct();
         fortyAreKept();
         fortyOneAreNot();
+        actsBehindUndo();
         redoOfForty();
     }
 
@@ -127,6 +129,7 @@ public final class ActBoundsTest {
         aboutAtFirst();
         aboutAtMost();
         aboutAnotherWhat();
+        calls512();
     }
 
     private static GreyHair first(String formula) {
@@ -255,6 +258,35 @@ public final class ActBoundsTest {
         worry("(" + LEAST_INT + ")>" + MOST_INT, 0);
         worry("0 or 0 or 3", 1);
         worry("3 and 3 and 0", 0);
+        worry("5+(0 and 1)", 5);
+        worry("5+(0 or 0)", 5);
+        worry("5+(not 1)", 5);
+        worry("5+(1<1)", 5);
+        worry("5+(1>1)", 5);
+        worry("5+(1=2)", 5);
+    }
+
+    private static void whichFirst() {
+        Due.part("Terms: e = both {or both}, both = one {and one}, one, sum, term, unit");
+        worry("1 or 1 and 0", 1);
+        worry("0 and 0 or 1", 1);
+        worry("(1 or 1) and 0", 0);
+        worry("not 0 and 0", 0);
+        worry("not 1 or 1", 1);
+        worry("not (1 or 1)", 0);
+        worry("not 2<1", 1);
+        worry("(not 2)<1", 1);
+        worry("not 0=0", 0);
+        worry("2<1 or 1<2", 1);
+        worry("1+1=2", 1);
+        worry("1+(1=2)", 1);
+        worry("2+3*4", 14);
+        worry("2*3+4", 10);
+        worry("20-8-4", 8);
+        worry("20-(8-4)", 16);
+        worry("100/10*10", 100);
+        worry("100%30/2", 5);
+        worry("2*100%30", 20);
     }
 
     private static void zeroAtLeast999AtMost() {
@@ -467,6 +499,12 @@ public final class ActBoundsTest {
         x.day();
         for (int i = 0; i < 6; i++) {
             Due.due("care of " + i, x.person(i, 1), i < 4 ? 2 * i + 2 : i + 1);
+        }
+        Due.due("four draws", x.about(5), 460);
+        x = Due.told(Due.cares(1, 2, 3, 4, 5, 6).replaceAll("cares ([3-6]);", "cares $1 news 100 of $1;"));
+        x.day();
+        for (int i = 0; i < 6; i++) {
+            Due.due("care of " + i, x.person(i, 1), i < 2 ? i + 1 : 2 * i + 2);
         }
         Due.due("four draws", x.about(5), 460);
     }
@@ -990,6 +1028,27 @@ public final class ActBoundsTest {
         }
     }
 
+    private static void actsBehindUndo() {
+        Due.part("==== 2: 40 are kept, some of them undone, and another act");
+        GreyHair x = Due.told(Due.cares(0) + "grows 1;");
+        for (int i = 0; i < 45; i++) {
+            x.day();
+        }
+        for (int i = 0; i < 5; i++) {
+            x.undo();
+        }
+        x.take(0, 9);
+        Due.due("about(6)", x.about(6), 36);
+        Due.due("about(7)", x.about(7), 0);
+        Due.due("person(0, 1)", x.person(0, 1), 49);
+        for (int i = 40; i >= 5; i--) {
+            Due.due("undo()", x.undo(), true);
+            Due.due("person(0, 1)", x.person(0, 1), i);
+        }
+        Due.due("undo()", x.undo(), false);
+        Due.due("about(7)", x.about(7), 36);
+    }
+
     private static void redoOfForty() {
         Due.part("==== 2: redo of as many as are kept");
         GreyHair x = Due.told(Due.cares(0) + "grows 1;");
@@ -1175,6 +1234,22 @@ public final class ActBoundsTest {
         }
         Due.due("about(6)", x.about(6), 0);
         Due.due("about(7)", x.about(7), 40);
+    }
+
+    private static void calls512() {
+        Due.part("An object is used for at most 512 calls");
+        GreyHair x = new GreyHair();
+        x.feed(0x70657273, 0x6F6E2061, 0x206F6620, 0x30206361, 0x72657320);
+        x.feed(0x353B6772, 0x6F777320, 0x31206F72, 0x20686173, 0x3B202020);
+        Due.due("call 3", x.family(), 1);
+        for (int call = 4; call <= 507; call++) {
+            Due.due("call " + call, x.day(), 0);
+        }
+        Due.due("call 508", x.about(4), 504);
+        Due.due("call 509", x.about(6), 40);
+        Due.due("call 510", x.person(0, 1), 99);
+        Due.due("call 511", x.undo(), true);
+        Due.due("call 512", x.about(4), 503);
     }
 
     private static void aboutAnotherWhat() {

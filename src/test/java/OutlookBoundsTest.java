@@ -34,6 +34,7 @@ public final class OutlookBoundsTest {
     private static void general() {
         nothingIsDone();
         noNews();
+        noNewsOfTheFirst();
         beyondDay999();
         ofNobody();
         dyedStays();
@@ -67,6 +68,7 @@ public final class OutlookBoundsTest {
 
     private static void hush() {
         fewestToBeForgotten();
+        hushBehindTheNextDay();
         leastSetOfKnows();
         hushOfNothing();
         hushOfAllTwelve();
@@ -229,6 +231,29 @@ public final class OutlookBoundsTest {
         Due.due("words()", x.words(), 2);
         // a needs 1 and b 6 (b with news none at all)
         Due.due("duel(1, 0)", x.duel(1, 0), 0);
+    }
+
+    private static void noNewsOfTheFirst() {
+        Due.part("==== 3: no news, of the first one neither");
+        GreyHair x = Due.told("person a of 0 cares 12 news 100 of 20;person b of 1 cares 20;person c of 0 cares 0;");
+        Due.due("will(1) has them", x.will(1), 0);
+        Due.due("odds(0, 0) has them", x.odds(0, 0), 1);
+        Due.due("next()", x.next(), 1);
+        Due.due("cares(0, 60)", x.cares(0, 60), 12);
+        Due.due("spare(0, 20, 0)", x.spare(0, 20, 0), 0);
+        Due.due("spare(1, 20, 0)", x.spare(1, 20, 0), 8);
+        Due.due("easing(0)", x.easing(0), 0);
+        Due.due("easing(1)", x.easing(1), 8);
+        Due.due("nights(1, 60)", x.nights(1, 60), 60);
+        Due.due("returns(0)", x.returns(0), -1);
+        Due.due("burden(60)", x.burden(60), 32);
+        Due.due("calm()", x.calm(), 21);
+        Due.due("silence(0, 0)", x.silence(0, 0), 0);
+        // a by b's 20 alone
+        Due.due("words()", x.words(), 1);
+        Due.due("duel(0, 1)", x.duel(0, 1), 0);
+        Due.due("path(6)", x.path(6), 0);
+        Due.lie(x, 1, 1, 1, 1, 1, 1);
     }
 
     private static void beyondDay999() {
@@ -412,8 +437,11 @@ public final class OutlookBoundsTest {
         spare(Due.told(Due.cares(0, 99)), 1, 1, 99, 0);
         spare(Due.told(Due.cares(1, 99)), 1, 1, 98, 0);
         spare(Due.told(Due.cares(98, 98)), 0, 1, 1, 1);
+        spare(Due.told(Due.cares(0, 90, 0, 0, 0, 0) + Due.knows("ab", "ac", "ad", "ae", "af") + "worry care;"), 1, 1, 90, 0);
         // one alone must take it on: two with half of it each do not do
         spare(Due.told(Due.cares(20, 10, 10)), 0, 1, 11, 1);
+        // he himself would be spared by 46 more, but another one must take it on
+        spare(Due.told(Due.cares(5, 50) + "worry 99-care;"), 0, 1, -1, -1);
     }
 
     private static void behindNoneOfTheNext() {
@@ -542,6 +570,19 @@ public final class OutlookBoundsTest {
         hush(four + "ease 1;", 3, 7);
     }
 
+    private static void hushBehindTheNextDay() {
+        Due.part("22: so that it is on nobody behind the next day");
+        // a has it now and no more then; on day 1 alone there is worry; what is forgotten does not grow
+        hush(Due.cares(5, 4) + Due.knows("ab") + "worry (care+known)*(1-has)*(known>0);", 0, 0);
+        hush(Due.cares(5, 4) + Due.knows("ab", "ba") + "worry (care+known)*(1-has)*(known>0);", 1, 2);
+        hush(Due.cares(5, 4) + Due.knows("ab") + "worry known*(day=1);", 1, 1);
+        hush(Due.cares(0, 5, 5) + Due.knows("ab", "ac") + "worry known*(day=1);", 2, 3);
+        hush(Due.cares(5, 4) + Due.knows("ab") + "worry known*(day=0);", 0, 0);
+        hush(Due.cares(5, 4) + Due.knows("ab") + "worry known*(day=2);", 0, 0);
+        hush(Due.cares(0, 4) + Due.knows("ab") + "grows known*2;worry care;ease 8;", 1, 1);
+        hush(Due.cares(0, 4) + Due.knows("ab") + "grows known*2;worry care;ease 9;", 0, 0);
+    }
+
     private static void leastSetOfKnows() {
         Due.part("22: of like ones the least set as bits (by the person who knows, then the other one)");
         String told = Due.cares(9, 9, 9, 0) + Due.knows("dc", "db", "da") + "worry known;";
@@ -564,6 +605,10 @@ public final class OutlookBoundsTest {
         hush(Due.cares(5, 4) + Due.knows("ab", "ba") + "ease 8;", 0, 0);
         hush("", 0, 0);
         hush(Due.cares(1) + "grows 0-1;", 0, 0);
+        GreyHair x = Due.told(Due.cares(1) + "grows 0-1;");
+        x.dye();
+        Due.due("dyed", x.hush(0), -1);
+        Due.due("dyed", x.hush(1), -1);
     }
 
     private static void hushOfAllTwelve() {
@@ -782,6 +827,9 @@ public final class OutlookBoundsTest {
         Due.due("he knows already", Due.told(Due.cares(6, 6) + Due.knows("ab") + "ease 20;").words(), 0);
         // a has it, and would have it by a word, too
         Due.due("he has it as it is", Due.told(Due.cares(30, 5)).words(), 0);
+        // b has it tomorrow as it is; a would by a word of b, who has it now would not count
+        Due.due("tomorrow, not now",
+                Due.told("person a of 0 cares 9;person b of 1 cares 8;person c of 0 cares 0;grows house*2;").words(), 1);
         Due.due("one alone", Due.told(Due.cares(30)).words(), 0);
         Due.due("nobody", Due.told("").words(), 0);
     }
@@ -840,6 +888,7 @@ public final class OutlookBoundsTest {
         Due.due("1", Due.told(Due.cares(9, 9) + "worry 0-care;").calm(), 1);
         Due.due("one more than the most", Due.told(Due.cares(5, 30, 6)).calm(), 31);
         Due.due("behind the next day", Due.told(Due.cares(5, 30, 6) + "grows 2;").calm(), 33);
+        Due.due("on the next day", Due.told(Due.cares(5) + "worry 7+day;").calm(), 9);
         Due.due("999", Due.told(Due.cares(5) + "worry 998;").calm(), 999);
         Due.due("998", Due.told(Due.cares(5) + "worry 997;").calm(), 998);
         Due.due("has is by where it is now", Due.told(Due.cares(5, 4) + "worry care-has*4;").calm(), 5);
@@ -968,6 +1017,9 @@ public final class OutlookBoundsTest {
         duel(Due.cares(50, 30, 20) + "ease 59;", 1, 0, 1, 0, 9);
         duel(Due.cares(50, 30, 20) + "ease 60;", 0, 1, 1, 0, 0);
         duel(Due.cares(5, 5, 50), 0, 1, 1, 0, 0);
+        // a has it as long as he takes on nothing; what b takes on does not count at all
+        duel("person a of 0 cares 0;person b of 1 cares 0;knows b a;worry (1-house)*5+(known>0)*9;", 0, 1, 1, 0, 0);
+        duel("person a of 0 cares 0;person b of 1 cares 0;knows b a;worry (1-house)*5+(known>0)*9;", 1, 0, 1, 0, 0);
     }
 
     private static void duel99AtMost() {

@@ -47,6 +47,7 @@ public final class SightBoundsTest {
 
     private static void fits() {
         asItWasTold();
+        atFirstOnTheBrush();
         theLastOne();
         wasOrWasNot();
         behindSoManyDays();
@@ -292,6 +293,23 @@ public final class SightBoundsTest {
         Due.due("sure(0, 0)", y.sure(0, 0), 50);
     }
 
+    private static void atFirstOnTheBrush() {
+        Due.part("==== 4: at first it lies on the brush for each care");
+        GreyHair x = Due.told(Due.cares(50) + "worry care-has*99;");
+        x.seen(0, 0, true);
+        Due.due("day 0", x.fits(0), 99);
+        x = Due.told(Due.cares(50) + "worry care-has*99;");
+        x.seen(9, 0, true);
+        Due.due("on each second day not", x.fits(0), 0);
+        x = Due.told(Due.cares(50) + "worry (day=0)*care+has*9;");
+        x.seen(0, 0, true);
+        x.seen(9, 0, true);
+        Due.due("kept by who has it", x.fits(0), 99);
+        x = Due.told(Due.cares(50) + "worry has*9+(care=60);");
+        x.seen(0, -1, true);
+        Due.due("by one care alone, not by those behind it", x.fits(0), 99);
+    }
+
     private static void theLastOne() {
         Due.part("==== 4: the last person's care at first, which is not known");
         for (int care : new int[] {0, 7, 99}) {
@@ -451,6 +469,7 @@ public final class SightBoundsTest {
         ask(FALLING.replace("cares 40", "cares 50"), 0, 51);
         // three parts on day 0: the brush for 30 cares, a for none, b for 70
         ask(Due.cares(20, 0) + "ease 30;", 0, 70);
+        ask(Due.cares(20, 0) + "ease 80;", 0, 80);
         GreyHair x = Due.told(FALLING);
         x.later(1);
         x.seen(9, 0, true);

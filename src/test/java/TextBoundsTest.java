@@ -46,6 +46,7 @@ public final class TextBoundsTest {
         emptyThen();
         allAsTold();
         notAsToldBefore();
+        manyOneAfterAnother();
         dayZeroAndNotDyed();
         noActsAreKept();
         nothingIsSeen();
@@ -94,6 +95,7 @@ public final class TextBoundsTest {
         sixtyInAll();
         unitTooMany();
         bracketsAreUnits();
+        longestFormula();
     }
 
     private static void within() {
@@ -101,6 +103,7 @@ public final class TextBoundsTest {
         oneBehindNotWithinSix();
         bothTogether();
         sideBySide();
+        farTooMany();
     }
 
     private static void faultPlaces() {
@@ -219,6 +222,10 @@ public final class TextBoundsTest {
         text = ALL_LINES + " ".repeat(1590 - ALL_LINES.length()) + "knows b a;";
         GreyHair x = fine(text, 2);
         Due.due("the last line counts", x.about(1), 2);
+        fault(" ".repeat(1594) + "ease 1", 2, 1600);
+        fault(" ".repeat(1593) + "ease 12", 2, 1600);
+        fault(" ".repeat(1599) + "+", 2, 1599);
+        fault(" ".repeat(1599) + "$", 1, 1599);
         Due.put(x, text);
         Due.due("one byte more", x.end(1601), -1);
         x.end(1599);
@@ -312,6 +319,30 @@ public final class TextBoundsTest {
             Due.due("no draw", x.about(5), 0);
             Due.due("family()", Due.tell(x, ALL_LINES), 2);
             Due.due("family() with a fault", Due.tell(x, ALL_LINES + "person c of 0 cares 7 news 5 of 5;$"), -1);
+        }
+    }
+
+    private static void manyOneAfterAnother() {
+        Due.part("4: all as told, however many were told before");
+        GreyHair x = new GreyHair();
+        String six = persons(6, "").replace("cares 0", "cares 50");
+        String two = Due.cares(3, 4);
+        for (int i = 1; i <= 4; i++) {
+            Due.due("six with twelve knows", Due.tell(x, six + pairs(12, "abcdef")), 6);
+            Due.due("four with news", Due.tell(x, persons(4, " news 1 of 1")), 4);
+            Due.due("60 units", Due.tell(x, two + "worry " + sum(30) + ";grows " + sum(30) + ";"), 2);
+            Due.due("about(11)", x.about(11), 60);
+            Due.due("six with cares", Due.tell(x, six), 6);
+            Due.due("six with cares", Due.tell(x, six), 6);
+            Due.due("two", Due.tell(x, two + "worry care*" + i + ";grows " + i + "-1;ease " + i + ";draw " + i + ";"), 2);
+            Due.due("by this worry", x.person(1, 2), 4 * i);
+            Due.due("by this growth", x.cares(1, 1), 3 + i);
+            Due.due("cares of two alone", x.burden(0), 7);
+            Due.due("about(2)", x.about(2), i);
+            Due.due("about(5)", x.about(5), i);
+            Due.due("about(11)", x.about(11), 4);
+            Due.due("nobody had it ahead of that", Due.tell(x, two + "worry has*9;"), 2);
+            Due.due("hair()", x.hair(), -1);
         }
     }
 
@@ -813,6 +844,23 @@ public final class TextBoundsTest {
         fault("worry " + sum(29) + "+(1);", 2, 6 + 57 + 2);
     }
 
+    private static void longestFormula() {
+        Due.part("Terms: 30 units, 7 nots ahead of each");
+        String seven = "not not not not not not not ";
+        String joined = (seven + "0 and ").repeat(29);
+        GreyHair x = fine(Due.cares(1) + "worry " + joined + seven + "0;", 1);
+        Due.due("all are 1", x.person(0, 2), 1);
+        x = fine(Due.cares(1) + "worry " + joined + seven + "1;", 1);
+        Due.due("the last is 0", x.person(0, 2), 0);
+        x = fine(Due.cares(1) + "grows " + joined + seven + "care;", 1);
+        Due.due("the last is 0", x.cares(0, 1), 1);
+        fault("worry " + joined + seven + "0 and " + seven + "0;", 2, 6 + 30 * 34 + 28);
+        // each of seven waits for what is within it: 1 less 14, that from 1, and so on
+        x = fine(Due.cares(1) + "worry 50+" + "1-(".repeat(7) + "1" + "-2*care".repeat(7) + ")".repeat(7) + ";", 1);
+        Due.due("about(11)", x.about(11), 30);
+        Due.due("by turns", x.person(0, 2), 50 + 14);
+    }
+
     private static void unitWithinSix() {
         Due.part("Terms: a unit ( e ) within 6 others at most; 2 what is within 7: at its first token");
         for (int deep = 1; deep <= 7; deep++) {
@@ -861,6 +909,20 @@ public final class TextBoundsTest {
         fine("worry " + nots + " and " + nots + " or " + nots + ";", 0);
         fine("worry (1<" + seven.substring(1, 14) + ");", 0);
         fault("worry " + seven + "+(" + seven + ");", 2, 6 + 15 + 2 + 6);
+    }
+
+    private static void farTooMany() {
+        Due.part("Terms: texts of 1,600 bytes that have far too many of one sort");
+        fault("worry " + "(".repeat(1594), 2, 13);
+        fault("worry " + "not ".repeat(398), 2, 34);
+        fault("worry " + "1+".repeat(797), 2, 66);
+        fault("worry " + "1 or not ".repeat(170), 2, 6 + 30 * 9);
+        fault("a".repeat(1600), 1, 0);
+        fault("1".repeat(1600), 1, 0);
+        fault(";".repeat(1600), 2, 0);
+        fault("ease 1;".repeat(228), 2, 7);
+        fine(" ".repeat(1600), 0);
+        fine("\n".repeat(1600), 0);
     }
 
     private static void theFirstByItsPlace() {
